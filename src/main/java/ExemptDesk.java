@@ -274,7 +274,9 @@ public final class ExemptDesk {
         }
         past.add(clerk.books);
         int ahead = clerk.books.entryCount;
-        clerk.endQuarters(n);
+        for (int i = 0; i < n; i++) {
+            clerk.endQuarter();
+        }
         return clerk.books.entryCount - ahead;
     }
 
@@ -292,7 +294,10 @@ public final class ExemptDesk {
         if (quarter > clerk.books.now) {
             return NOT_NOW;
         }
-        return clerk.provisionalFraction(trader, quarter);
+        if (quarter < clerk.books.now) {
+            return clerk.books.keptProvisional(trader, quarter);
+        }
+        return clerk.fractionByBasis(trader, quarter, clerk.rules.bases[trader]);
     }
 
     public int recovered(int trader, int quarter) {
@@ -425,7 +430,7 @@ public final class ExemptDesk {
             return NO_AMOUNT;
         }
         Reckoning r = clerk.ofYear(one, year);
-        clerk.addYear(other, year);
+        clerk.joinYear(other, year);
         return r.backBy(r.fraction());
     }
 
@@ -437,7 +442,7 @@ public final class ExemptDesk {
             return NOT_NOW;
         }
         int fraction = clerk.annualFraction(trader, year);
-        return clerk.ofYear(trader, year).limitForSmall(fraction);
+        return clerk.ofYear(trader, year).leastLimit(fraction);
     }
 
     public int byBasis(int trader, int quarter, int basis) {
@@ -619,7 +624,9 @@ public final class ExemptDesk {
             return NO_AMOUNT;
         }
         trial.imitate(clerk);
-        trial.endQuarters(n);
+        for (int i = 0; i < n; i++) {
+            trial.endQuarter();
+        }
         return trial.books.totalOf(trader, sort) - clerk.books.totalOf(trader, sort);
     }
 
@@ -628,7 +635,14 @@ public final class ExemptDesk {
             return NO_AMOUNT;
         }
         trial.imitate(clerk);
-        trial.endQuartersByChance(seed == -1 ? clerk.rules.seed : seed, n, trader);
+        long number = seed == -1 ? clerk.rules.seed : seed;
+        for (int i = 0; i < n; i++) {
+            for (int kind = 0; kind < SALE_KINDS; kind++) {
+                number = numberBehind(number);
+                trial.books.addToSum(trader, trial.books.now, kind, (int) ((number >> 16) % 1000));
+            }
+            trial.endQuarter();
+        }
         int more = 0;
         for (int sort = 0; sort < SORTS; sort++) {
             more += trial.books.totalOf(trader, sort) - clerk.books.totalOf(trader, sort);
@@ -754,6 +768,11 @@ public final class ExemptDesk {
         return Math.floorDiv(2 * a + b, 2 * b);
     }
 
+    /** The next number that a DRAW takes. */
+    private static long numberBehind(long number) {
+        return (number * 1103515245L + 12345L) & 0x7fffffffL;
+    }
+
     private static void copyRow(int[] from, int[] to) {
         System.arraycopy(from, 0, to, 0, Math.min(from.length, to.length));
     }
@@ -774,24 +793,19 @@ public final class ExemptDesk {
 
         /** The word that stands from one place up to another; null if it is none of these. */
         static Word at(byte[] bytes, int from, int to) {
+            if (from < 0 || to > bytes.length) {
+                return null;
+            }
             for (Word word : ALL) {
-                if (word.stands(bytes, from, to)) {
+                boolean stands = word.letters.length() == to - from;
+                for (int i = 0; stands && i < word.letters.length(); i++) {
+                    stands = bytes[from + i] == word.letters.charAt(i);
+                }
+                if (stands) {
                     return word;
                 }
             }
             return null;
-        }
-
-        private boolean stands(byte[] bytes, int from, int to) {
-            if (from < 0 || to > bytes.length || to - from != letters.length()) {
-                return false;
-            }
-            for (int i = 0; i < letters.length(); i++) {
-                if (bytes[from + i] != letters.charAt(i)) {
-                    return false;
-                }
-            }
-            return true;
         }
     }
 
@@ -962,38 +976,47 @@ public final class ExemptDesk {
             if (word == null) {
                 return fail(CANNOT_STAND, start);
             }
-            if (!readRest(word)) {
+            boolean read;
+            switch (word) {
+                case TRADER:
+                    read = readTrader();
+                    break;
+                case HEAD:
+                    read = readHead();
+                    break;
+                case START:
+                    read = readStart();
+                    break;
+                case ROUND:
+                    read = readRound();
+                    break;
+                case STEP:
+                    read = readStep();
+                    break;
+                case LIMIT:
+                    read = readLimit();
+                    break;
+                case SEED:
+                    read = readSeed();
+                    break;
+                case SALE:
+                    read = readSale();
+                    break;
+                case BUY:
+                    read = readBuy();
+                    break;
+                case ASSET:
+                    read = readAsset();
+                    break;
+                default:
+                    read = fail(CANNOT_STAND, start);
+                    break;
+            }
+            if (!read) {
                 return false;
             }
             takeToken();
             return kind == SEMICOLON || fail(CANNOT_STAND, start);
-        }
-
-        private boolean readRest(Word word) {
-            switch (word) {
-                case TRADER:
-                    return readTrader();
-                case HEAD:
-                    return readHead();
-                case START:
-                    return readStart();
-                case ROUND:
-                    return readRound();
-                case STEP:
-                    return readStep();
-                case LIMIT:
-                    return readLimit();
-                case SEED:
-                    return readSeed();
-                case SALE:
-                    return readSale();
-                case BUY:
-                    return readBuy();
-                case ASSET:
-                    return readAsset();
-                default:
-                    return fail(CANNOT_STAND, start);
-            }
         }
 
         private boolean readTrader() {
@@ -1199,40 +1222,28 @@ public final class ExemptDesk {
 
         private void takeToken() {
             start = end;
-            for (int i = end; i < length && isBlank(bytes[i]); i++) {
-                start = i + 1;
+            while (start < length && isBlank(bytes[start])) {
+                start++;
             }
             end = start;
+            value = 0;
             if (start >= length) {
                 kind = END;
             } else if (isLetter(bytes[start])) {
                 kind = WORD;
-                takeLetters();
+                for (int shift = 5 * (LONGEST_NAME - 1); end < length && isLetter(bytes[end]); shift -= 5) {
+                    value |= shift >= 0 ? bytes[end] - 'a' + 1 << shift : 0;
+                    end++;
+                }
             } else if (isDigit(bytes[start])) {
                 kind = NUMBER;
-                takeDigits();
+                while (end < length && isDigit(bytes[end])) {
+                    value = Math.min(BEYOND_ALL, value * 10 + (bytes[end] - '0'));
+                    end++;
+                }
             } else {
                 kind = bytes[start] == ';' ? SEMICOLON : NO_TOKEN;
-                end = start + 1;
-            }
-        }
-
-        private void takeLetters() {
-            value = 0;
-            for (int i = start; i < length && isLetter(bytes[i]); i++) {
-                int shift = 5 * (LONGEST_NAME - 1 - (i - start));
-                if (shift >= 0) {
-                    value |= (bytes[i] - 'a' + 1) << shift;
-                }
-                end = i + 1;
-            }
-        }
-
-        private void takeDigits() {
-            value = 0;
-            for (int i = start; i < length && isDigit(bytes[i]); i++) {
-                value = Math.min(BEYOND_ALL, value * 10 + (bytes[i] - '0'));
-                end = i + 1;
+                end++;
             }
         }
 
@@ -1409,6 +1420,14 @@ public final class ExemptDesk {
             return recovereds[trader * QUARTERS + quarter];
         }
 
+        int recoveredInYear(int trader, int year) {
+            int together = 0;
+            for (int i = 0; i < QUARTERS_OF_YEAR; i++) {
+                together += recovereds[trader * QUARTERS + year * QUARTERS_OF_YEAR + i];
+            }
+            return together;
+        }
+
         int keptProvisional(int trader, int quarter) {
             return provisionals[trader * QUARTERS + quarter];
         }
@@ -1547,24 +1566,28 @@ public final class ExemptDesk {
             return sums[FIRST_TAX] + sums[FIRST_TAX + 1] + sums[FIRST_TAX + 2];
         }
 
-        long leftBy(int fraction) {
+        private long leftBy(int fraction) {
             long both = sums[FIRST_TAX + 2];
             return sums[FIRST_TAX + 1] + both - cut(both * fraction, step, way);
         }
 
-        /** The least limit by which it is SMALL; NOT_NOW: by none. */
-        int limitForSmall(int fraction) {
-            long left = leftBy(fraction);
-            return 2 * left <= allTax() ? (int) left : NOT_NOW;
+        private boolean isSmallLeft(long left) {
+            return left <= limit && 2 * left <= allTax();
         }
 
         boolean isSmall(int fraction) {
-            int least = limitForSmall(fraction);
-            return least != NOT_NOW && least <= limit;
+            return isSmallLeft(leftBy(fraction));
         }
 
         int backBy(int fraction) {
-            return (int) (isSmall(fraction) ? allTax() : allTax() - leftBy(fraction));
+            long left = leftBy(fraction);
+            return (int) (isSmallLeft(left) ? allTax() : allTax() - left);
+        }
+
+        /** The least limit by which it is SMALL; NOT_NOW: by none. */
+        int leastLimit(int fraction) {
+            long left = leftBy(fraction);
+            return 2 * left <= allTax() ? (int) left : NOT_NOW;
         }
     }
 
@@ -1608,8 +1631,8 @@ public final class ExemptDesk {
             }
         }
 
-        /** By the rules told, HEADS as they are now; the same object each time. */
-        private Reckoning beginReckoning(int trader) {
+        /** By the rules told, HEADS as they are now, no sums yet. */
+        private void beginReckoning(int trader) {
             reckoning.way = rules.way;
             reckoning.method = rules.methods[trader];
             reckoning.step = rules.step;
@@ -1619,37 +1642,34 @@ public final class ExemptDesk {
             for (int what = 0; what < SUMS; what++) {
                 reckoning.sums[what] = 0;
             }
-            return reckoning;
         }
 
-        private void addQuarter(int trader, int quarter) {
-            for (int what = 0; what < SUMS; what++) {
-                reckoning.sums[what] += books.sumOf(trader, quarter, what);
+        private void addQuarters(int trader, int first, int howMany) {
+            for (int quarter = first; quarter < first + howMany; quarter++) {
+                for (int what = 0; what < SUMS; what++) {
+                    reckoning.sums[what] += books.sumOf(trader, quarter, what);
+                }
             }
         }
 
-        private void addQuartersOf(int trader, int year) {
-            for (int i = 0; i < QUARTERS_OF_YEAR; i++) {
-                addQuarter(trader, year * QUARTERS_OF_YEAR + i);
-            }
-        }
-
+        /** The same object as each reckoning ahead. */
         Reckoning ofQuarter(int trader, int quarter) {
             beginReckoning(trader);
-            addQuarter(trader, quarter);
+            addQuarters(trader, quarter, 1);
             reckoning.limit = rules.limit / QUARTERS_OF_YEAR;
             return reckoning;
         }
 
+        /** The same object as each reckoning ahead. */
         Reckoning ofYear(int trader, int year) {
             beginReckoning(trader);
-            addQuartersOf(trader, year);
+            addQuarters(trader, year * QUARTERS_OF_YEAR, QUARTERS_OF_YEAR);
             return reckoning;
         }
 
         /** Joins another TRADER to the reckoning of a YEAR. */
-        void addYear(int trader, int year) {
-            addQuartersOf(trader, year);
+        void joinYear(int trader, int year) {
+            addQuarters(trader, year * QUARTERS_OF_YEAR, QUARTERS_OF_YEAR);
             reckoning.ownHeads += books.ownHeads[trader];
             reckoning.allHeads += books.allHeads[trader];
         }
@@ -1668,25 +1688,14 @@ public final class ExemptDesk {
         }
 
         int trued(int trader, int year) {
-            int rest = yearBack(trader, year);
-            for (int i = 0; i < QUARTERS_OF_YEAR; i++) {
-                rest -= books.recoveredIn(trader, year * QUARTERS_OF_YEAR + i);
-            }
-            return rest;
+            return yearBack(trader, year) - books.recoveredInYear(trader, year);
         }
 
-        /** PROVISIONAL of a QUARTER up to NOW. */
-        int provisionalFraction(int trader, int quarter) {
-            if (quarter < books.now) {
-                return books.keptProvisional(trader, quarter);
-            }
-            return fractionByBasis(trader, quarter, rules.bases[trader]);
-        }
-
+        /** PROVISIONAL by a BASIS of a QUARTER up to NOW, by sums and HEADS as they are now. */
         int fractionByBasis(int trader, int quarter, int basis) {
             int year = quarter / QUARTERS_OF_YEAR;
             if (basis == 1 && year > 0) {
-                return annualFraction(trader, year - 1);
+                return books.keptAnnual(trader, year - 1);
             }
             if (basis == 1 && rules.starts[trader] != NOT_NOW) {
                 return Math.min(rules.starts[trader], rules.step);
@@ -1694,29 +1703,12 @@ public final class ExemptDesk {
             return ofQuarter(trader, quarter).fraction();
         }
 
-        void endQuarters(int n) {
-            for (int i = 0; i < n; i++) {
-                endQuarter();
-            }
-        }
-
-        void endQuartersByChance(int seed, int n, int trader) {
-            long number = seed;
-            for (int i = 0; i < n; i++) {
-                for (int kind = 0; kind < SALE_KINDS; kind++) {
-                    number = (number * 1103515245L + 12345L) & 0x7fffffffL;
-                    books.addToSum(trader, books.now, kind, (int) ((number >> 16) % 1000));
-                }
-                endQuarter();
-            }
-        }
-
-        private void endQuarter() {
+        void endQuarter() {
             if (books.now >= QUARTERS - 1) {
                 return;
             }
             for (int trader = 0; trader < rules.traders; trader++) {
-                int fraction = provisionalFraction(trader, books.now);
+                int fraction = fractionByBasis(trader, books.now, rules.bases[trader]);
                 int back = ofQuarter(trader, books.now).backBy(fraction);
                 books.keepProvisional(trader, fraction, back);
                 books.enter(trader, PROVISIONAL_SORT, back, NOT_NOW);
@@ -1733,20 +1725,24 @@ public final class ExemptDesk {
         }
 
         private void endYear() {
+            int year = thisYear();
             for (int trader = 0; trader < rules.traders; trader++) {
-                books.keepAnnual(trader, thisYear(), annualFraction(trader, thisYear()));
-                books.enter(trader, TRUED_SORT, trued(trader, thisYear()), NOT_NOW);
+                Reckoning r = ofYear(trader, year);
+                int fraction = r.fraction();
+                int back = r.backBy(fraction);
+                books.keepAnnual(trader, year, fraction);
+                books.enter(trader, TRUED_SORT, back - books.recoveredInYear(trader, year), NOT_NOW);
             }
             for (int i = 0; i < books.assetCount; i++) {
                 if (!books.assets[i].shut) {
-                    endInterval(i);
+                    endInterval(i, year);
                 }
             }
         }
 
-        private void endInterval(int number) {
+        private void endInterval(int number, int year) {
             Asset a = books.assets[number];
-            int worth = worthNow(a, a.use);
+            int worth = worthBy(a, a.use, books.keptAnnual(a.owner, year));
             if (a.through == 0) {
                 a.base = worth;
                 a.first = firstBy(a, worth);
@@ -1778,7 +1774,10 @@ public final class ExemptDesk {
 
         /** WORTH AS IT STANDS, if USE is such in the QUARTERS that are not CLOSED yet. */
         int worthNow(Asset a, int use) {
-            int annual = annualFraction(a.owner, thisYear());
+            return worthBy(a, use, annualFraction(a.owner, thisYear()));
+        }
+
+        private int worthBy(Asset a, int use, int annual) {
             if (a.through == 0) {
                 return quarterWorth(use, annual);
             }

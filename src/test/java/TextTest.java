@@ -77,6 +77,8 @@ public final class TextTest {
         check.due("buys told", 1, desk.count(9));
         check.due("assets told", 2, desk.count(12));
         check.due("assets now", 1, desk.count(2));
+        check.due("near words of the language", 4,
+            Check.tell(desk, "trader hear 0 0;trader uown 0 0;trader u 0 0;trader seeds 0 0;"));
         check.due("least", 4, Check.tell(desk, "step 10;limit 0;seed 0;trader z 0 0;"));
         StringBuilder most = new StringBuilder("trader a 0 0;");
         for (int i = 0; i < 12; i++) {

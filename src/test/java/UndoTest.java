@@ -8,6 +8,7 @@ public final class UndoTest {
         promise46WhatIsNot();
         promise47();
         promise48();
+        promise48AfterAnotherPast();
         promise49();
         check.end();
     }
@@ -128,6 +129,44 @@ public final class UndoTest {
         check.due("unchanged by what came", 6, desk.count(4));
         Check.tell(desk, "");
         check.due("gone with a text", -1, desk.back());
+    }
+
+    /** All of an ASSET is as in the IMAGE, though another one has had its number since. */
+    private static void promise48AfterAnotherPast() {
+        ExemptDesk desk = Check.desk("trader a 2 0;trader b 0 0;head a 1 2;");
+        desk.acquire(0, 2, 1000, 5);
+        desk.close(8);
+        desk.heads(0, 1, 4);
+        desk.hand(0, 1);
+        desk.sell(0, 0, -1);
+        desk.close(4);
+        desk.keep();
+        for (int i = 0; i < 6; i++) {
+            desk.undo();
+        }
+        desk.heads(0, 0, 1);
+        desk.acquire(1, 0, 77, 5);
+        desk.hand(0, 0);
+        desk.close(4);
+        desk.use(0, 1);
+        desk.sell(0, 0, 3);
+        desk.close(12);
+        check.due("back", 12, desk.back());
+        int[] asset = {1, 2, 1000, 5, 0, 50, 0, 1, 1, 500};
+        for (int what = 0; what < asset.length; what++) {
+            check.due("asset(0, " + what + ")", asset[what], desk.asset(0, what));
+        }
+        int[][] intervals = {{0, 50, 0, 0}, {1, 50, 0, 0}, {2, 25, -50, 0}};
+        for (int i = 0; i < 3; i++) {
+            for (int what = 0; what < 4; what++) {
+                check.due("interval(0, " + i + ", " + what + ")", intervals[i][what], desk.interval(0, i, what));
+            }
+        }
+        check.due("taken", 650, desk.taken(0));
+        check.due("last", 200, desk.last(0));
+        check.due("provisional", 50, desk.provisional(0, 0));
+        check.due("annual", 50, desk.annual(0, 0, 0));
+        check.due("annual", 25, desk.annual(0, 2, 0));
     }
 
     private static void promise49() {

@@ -248,6 +248,10 @@ public final class WhatIfTest {
         tight.buy(0, 0, 10);
         check.due("twice left", 10, tight.room(0, 1));
         check.due("whole", 9999, tight.room(0, 2));
+        ExemptDesk wide = Check.desk("trader a 0 0;limit 9998;");
+        wide.acquire(0, 0, 50000, 5);
+        check.due("the 9999th is too much", 9998, wide.room(0, 1));
+        check.due("9999 are not", 9999, Check.desk("trader a 0 0;").room(0, 2));
         ExemptDesk byTax = Check.desk("trader a 1 0;limit 9999;");
         byTax.buy(0, 0, 10);
         byTax.buy(0, 2, 100);
@@ -435,6 +439,7 @@ public final class WhatIfTest {
         check.due("8 quarters", chanceByCalls(8, 1), desk.chance(5, 8, 1));
         desk.chance(Integer.MAX_VALUE, 8, 0);
         check.due("nothing is changed", 0, desk.sum(0, 0, 0));
+        check.due("seed least of all", -999999, desk.chance(Integer.MIN_VALUE, 1, 0));
         check.due("seed below", -999999, desk.chance(-2, 1, 0));
         check.due("0", -999999, desk.chance(0, 0, 0));
         check.due("9", -999999, desk.chance(0, 9, 0));
@@ -445,6 +450,9 @@ public final class WhatIfTest {
         desk.close(12);
         check.due("63 would close", -999999, desk.chance(0, 4, 0));
         check.due("3 are left", 0, desk.chance(0, 3, 0));
+        Check.tell(desk, "trader a 0 0;");
+        desk.buy(0, 2, 9999);
+        check.due("0 without one told", 0, desk.chance(-1, 1, 0));
     }
 
     /** What the same desk books from seed 5 on, if the draws are sold by calls. */
