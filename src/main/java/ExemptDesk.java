@@ -54,6 +54,8 @@ public final class ExemptDesk {
     private static final int LOST = 2;
     private static final int MOST_AMOUNT = 99999;
     private static final int MOST_TAX = 9999;
+    private static final int MOST_LIMIT = 9999;
+    private static final int MOST_SEED = 99999;
     private static final int MOST_CLOSED = 16;
     private static final int MOST_CHANCES = 8;
     private static final int MOST_UNDONE = 20;
@@ -927,8 +929,10 @@ public final class ExemptDesk {
         private int start;
         private int end;
         private int value;
-        /** The TRADER of the LINE. */
+        /** What the LINE has told so far. */
         private int trader;
+        private int dealQuarter;
+        private int dealKind;
         private final boolean[] headTold = new boolean[MOST_TRADERS];
         private boolean wayTold;
         private boolean stepTold;
@@ -1000,13 +1004,13 @@ public final class ExemptDesk {
                     read = readSeed();
                     break;
                 case SALE:
-                    read = readSale();
+                    read = isRoom(into.saleCount, MOST_TOLD_SALES) && takeDeal(SALE_KINDS) && endSale();
                     break;
                 case BUY:
-                    read = readBuy();
+                    read = isRoom(into.buyCount, MOST_TOLD_BUYS) && takeDeal(TAX_KINDS) && endBuy();
                     break;
                 case ASSET:
-                    read = readAsset();
+                    read = isRoom(into.assetCount, MOST_TOLD_ASSETS) && takeDeal(TAX_KINDS) && endAsset();
                     break;
                 default:
                     read = fail(CANNOT_STAND, start);
@@ -1020,17 +1024,11 @@ public final class ExemptDesk {
         }
 
         private boolean readTrader() {
-            if (into.traders >= MOST_TRADERS) {
-                return fail(TOO_MUCH, start);
-            }
-            if (!takeName()) {
+            if (!isRoom(into.traders, MOST_TRADERS) || !takeName()) {
                 return false;
             }
             int name = value;
-            if (into.traderNamed(name) != NONE) {
-                return fail(TOLD_ALREADY, start);
-            }
-            if (!takeNumber(0, METHODS - 1)) {
+            if (!isNew(into.traderNamed(name) == NONE) || !takeNumber(0, METHODS - 1)) {
                 return false;
             }
             int method = value;
@@ -1043,13 +1041,7 @@ public final class ExemptDesk {
         }
 
         private boolean readHead() {
-            if (!takeTrader()) {
-                return false;
-            }
-            if (headTold[trader]) {
-                return fail(TOLD_ALREADY, start);
-            }
-            if (!takeNumber(0, MOST_HEADS)) {
+            if (!takeTrader() || !isNew(!headTold[trader]) || !takeNumber(0, MOST_HEADS)) {
                 return false;
             }
             int own = value;
@@ -1063,13 +1055,7 @@ public final class ExemptDesk {
         }
 
         private boolean readStart() {
-            if (!takeTrader()) {
-                return false;
-            }
-            if (into.starts[trader] != NOT_NOW) {
-                return fail(TOLD_ALREADY, start);
-            }
-            if (!takeNumber(0, MOST_STEP)) {
+            if (!takeTrader() || !isNew(into.starts[trader] == NOT_NOW) || !takeNumber(0, MOST_STEP)) {
                 return false;
             }
             into.starts[trader] = value;
@@ -1077,8 +1063,8 @@ public final class ExemptDesk {
         }
 
         private boolean readRound() {
-            if (wayTold) {
-                return fail(TOLD_ALREADY, start);
+            if (!isNew(!wayTold)) {
+                return false;
             }
             takeToken();
             Word word = kind == WORD ? Word.at(bytes, start, end) : null;
@@ -1096,10 +1082,7 @@ public final class ExemptDesk {
         }
 
         private boolean readStep() {
-            if (stepTold) {
-                return fail(TOLD_ALREADY, start);
-            }
-            if (!takeNumber(LEAST_STEP, MOST_STEP)) {
+            if (!isNew(!stepTold) || !takeNumber(LEAST_STEP, MOST_STEP)) {
                 return false;
             }
             into.step = value;
@@ -1108,10 +1091,7 @@ public final class ExemptDesk {
         }
 
         private boolean readLimit() {
-            if (limitTold) {
-                return fail(TOLD_ALREADY, start);
-            }
-            if (!takeNumber(0, 9999)) {
+            if (!isNew(!limitTold) || !takeNumber(0, MOST_LIMIT)) {
                 return false;
             }
             into.limit = value;
@@ -1120,10 +1100,7 @@ public final class ExemptDesk {
         }
 
         private boolean readSeed() {
-            if (seedTold) {
-                return fail(TOLD_ALREADY, start);
-            }
-            if (!takeNumber(0, 99999)) {
+            if (!isNew(!seedTold) || !takeNumber(0, MOST_SEED)) {
                 return false;
             }
             into.seed = value;
@@ -1131,68 +1108,57 @@ public final class ExemptDesk {
             return true;
         }
 
-        private boolean readSale() {
-            if (into.saleCount >= MOST_TOLD_SALES) {
-                return fail(TOO_MUCH, start);
-            }
+        /** The first three of a sale, a buy, an ASSET: TRADER, QUARTER, KIND or USE. */
+        private boolean takeDeal(int kinds) {
             if (!takeTrader() || !takeNumber(0, QUARTERS - 1)) {
                 return false;
             }
-            int quarter = value;
-            if (!takeNumber(0, SALE_KINDS - 1)) {
+            dealQuarter = value;
+            if (!takeNumber(0, kinds - 1)) {
                 return false;
             }
-            int saleKind = value;
+            dealKind = value;
+            return true;
+        }
+
+        private boolean endSale() {
             if (!takeNumber(1, MOST_AMOUNT)) {
                 return false;
             }
-            into.addSale(trader, quarter, saleKind, value);
+            into.addSale(trader, dealQuarter, dealKind, value);
             return true;
         }
 
-        private boolean readBuy() {
-            if (into.buyCount >= MOST_TOLD_BUYS) {
-                return fail(TOO_MUCH, start);
-            }
-            if (!takeTrader() || !takeNumber(0, QUARTERS - 1)) {
-                return false;
-            }
-            int quarter = value;
-            if (!takeNumber(0, TAX_KINDS - 1)) {
-                return false;
-            }
-            int taxKind = value;
+        private boolean endBuy() {
             if (!takeNumber(1, MOST_TAX)) {
                 return false;
             }
-            into.addBuy(trader, quarter, taxKind, value);
+            into.addBuy(trader, dealQuarter, dealKind, value);
             return true;
         }
 
-        private boolean readAsset() {
-            if (into.assetCount >= MOST_TOLD_ASSETS) {
-                return fail(TOO_MUCH, start);
-            }
-            if (!takeTrader() || !takeNumber(0, QUARTERS - 1)) {
-                return false;
-            }
-            int quarter = value;
-            if (!takeNumber(0, TAX_KINDS - 1)) {
-                return false;
-            }
-            int assetUse = value;
+        private boolean endAsset() {
             if (!takeNumber(1, MOST_TAX)) {
                 return false;
             }
             int tax = value;
-            if (!takeNumber(0, BEYOND_ALL)) {
+            if (!takeNumber(0, MOST_INTERVALS)) {
                 return false;
             }
             if (!isIntervals(value)) {
                 return fail(TOO_MUCH, start);
             }
-            into.addAsset(trader, quarter, assetUse, tax, value);
+            into.addAsset(trader, dealQuarter, dealKind, tax, value);
             return true;
+        }
+
+        /** Asked while the word of the LINE is the token. */
+        private boolean isRoom(int told, int most) {
+            return told < most || fail(TOO_MUCH, start);
+        }
+
+        private boolean isNew(boolean untold) {
+            return untold || fail(TOLD_ALREADY, start);
         }
 
         /** A W; its packed letters are the value then. */
