@@ -551,12 +551,11 @@ public final class ExemptDesk {
         Asset a = clerk.books.assets[asset];
         int base = clerk.baseNow(a);
         int adjusted = clerk.adjustedBy(a, clerk.worthNow(a, a.use), base);
-        int thisYear = a.through > 0 ? 1 : 0;
         int best = 0;
         int most = 0;
         for (int wait = 0; wait <= a.intervalsBehind(); wait++) {
-            int together = adjusted * (wait + thisYear)
-                    + clerk.finalFor(a, kind, a.intervalsBehind() - wait, base);
+            // What is ADJUSTED this YEAR is left out: it is the same for each wait.
+            int together = adjusted * wait + clerk.finalFor(a, kind, a.intervalsBehind() - wait, base);
             if (wait == 0 || together > most) {
                 most = together;
                 best = wait;
@@ -570,12 +569,12 @@ public final class ExemptDesk {
             return NO_AMOUNT;
         }
         Asset a = clerk.books.assets[asset];
-        int base = clerk.baseNow(a);
-        int adjusted = clerk.adjustedBy(a, clerk.worthNow(a, a.use), base);
+        int worth = clerk.worthNow(a, a.use);
         if (a.through == 0) {
-            return clerk.firstBy(a, base) + adjusted * (n - 1);
+            // WORTH is BASE then, so the YEARS behind have nothing to adjust.
+            return clerk.firstBy(a, worth);
         }
-        return a.taken + adjusted * n;
+        return a.taken + clerk.adjustedBy(a, worth, a.base) * n;
     }
 
     public int ifUse(int asset, int use) {

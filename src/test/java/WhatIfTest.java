@@ -451,6 +451,7 @@ public final class WhatIfTest {
         check.due("63 would close", -999999, desk.chance(0, 4, 0));
         check.due("3 are left", 0, desk.chance(0, 3, 0));
         Check.tell(desk, "trader a 0 0;");
+        Check.tell(desk, "trader a 0 0;");
         desk.buy(0, 2, 9999);
         check.due("0 without one told", 0, desk.chance(-1, 1, 0));
     }
