@@ -28,6 +28,25 @@ final class Check {
         due("trader(" + trader + ", " + what + ") throws", want, thrown);
     }
 
+    /** A TEXT without a FAULT; the desk that has been told it. */
+    ExemptDesk stands(int lines, String text) {
+        ExemptDesk desk = new ExemptDesk();
+        due(text, lines, tell(desk, text));
+        due(text + " fault", 0, desk.fault(0));
+        due(text + " place", -1, desk.fault(1));
+        return desk;
+    }
+
+    /** A TEXT with a FAULT; a '|', which is not told, marks its place. */
+    void faulty(int fault, String marked) {
+        int place = marked.indexOf('|');
+        String text = marked.substring(0, place) + marked.substring(place + 1);
+        ExemptDesk desk = new ExemptDesk();
+        due(marked, -1, tell(desk, text));
+        due(marked + " fault", fault, desk.fault(0));
+        due(marked + " place", place, desk.fault(1));
+    }
+
     void end() {
         if (wrong > 0) {
             System.out.println(wrong + " answers are not as due");
