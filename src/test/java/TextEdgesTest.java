@@ -14,6 +14,7 @@ public final class TextEdgesTest {
         tapeOf700();
         bytesHighestFirst();
         firstBytesOfTheTape();
+        cutWithinAToken();
         textOf700();
         textOfNothing();
         textsInARow();
@@ -119,12 +120,46 @@ public final class TextEdgesTest {
         check.due("the limit isn't told", 0, desk.count(7));
     }
 
+    /** "The TAPE's first n bytes .. are the TEXT": what is behind them, or was there ahead, ends no token otherwise. */
+    private static void cutWithinAToken() {
+        String told = "trader abc 2 1;head abc 123 456;round near;limit 7985;";
+        for (int n = 0; n <= told.length(); n++) {
+            ExemptDesk alone = new ExemptDesk();
+            int due = Check.tell(alone, told.substring(0, n));
+            ExemptDesk cut = new ExemptDesk();
+            Check.feed(cut, told);
+            check.due("first " + n, due, cut.text(n));
+            check.due("fault of the first " + n, alone.fault(0), cut.fault(0));
+            check.due("place of the first " + n, alone.fault(1), cut.fault(1));
+        }
+        ExemptDesk desk = new ExemptDesk();
+        int[] places = {8, 9, 25, 28, 41, 51};
+        for (int n : places) {
+            Check.feed(desk, told);
+            check.due("cut at " + n, -1, desk.text(n));
+            check.due("its fault", 1, desk.fault(0));
+            check.due("its place", n == 41 ? 38 : n, desk.fault(1));
+        }
+        Check.feed(desk, "                  tr");
+        check.due("behind it stood letters", -1, desk.text(20));
+        check.due("no word of the language", 18, desk.fault(1));
+        Check.feed(desk, "limit 7;trader a 0 0;");
+        check.due("a name, two numbers", 2, desk.text(21));
+        check.due("the limit", 7, desk.count(7));
+    }
+
     private static void textOf700() {
         String blanks = " ".repeat(700);
         check.due("the last byte counts", 11, check.stands(1, blanks.substring(8) + "step 11;").count(5));
         check.faulty(1, blanks.substring(7) + "step 11|");
         check.faulty(1, blanks.substring(1) + "|;");
         check.faulty(2, blanks.substring(7) + "step |9;");
+        check.faulty(1, blanks.substring(4) + "step|");
+        check.faulty(1, blanks.substring(8) + "round up|");
+        check.faulty(1, blanks.substring(11) + "trader |near");
+        check.faulty(1, blanks.substring(8) + "trader a|");
+        check.faulty(4, blanks.substring(6) + "head |a");
+        check.faulty(1, blanks.substring(1) + "|$");
         StringBuilder most = new StringBuilder(A);
         for (int i = 0; i < 12; i++) {
             most.append("sale a 0 0 1;buy a 0 0 1;");

@@ -127,6 +127,11 @@ public final class WhatIfEdgesTest {
         up.sale(0, 1, 1);
         up.buy(0, 2, 9999);
         check.due("up: whole by the least", 10, up.bestStep(0, 0));
+        ExemptDesk beyond = Check.desk("trader a 0 0;");
+        beyond.sale(0, 0, 1000);
+        beyond.sale(0, 1, 1);
+        beyond.buy(0, 2, 1001);
+        check.due("999 by 501 and more, 1000 by 1001 alone", 501, beyond.bestStep(0, 0));
         check.due("a third of 1000", 12, shop("").bestStep(0, 0));
         check.due("by any step told", 12, shop("step 777;").bestStep(0, 0));
     }
