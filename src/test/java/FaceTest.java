@@ -25,22 +25,37 @@ public final class FaceTest {
             String told = due.get(method.getName());
             if (told == null) {
                 check.due(method + " is private", true, isHidden(method));
+                check.due(method + " bears no public name", false, isPublicName(method.getName()));
                 continue;
             }
             String shown = method.getParameterCount() + (method.getReturnType() == boolean.class ? "b" : "");
             check.due(method + " is as told", true, Modifier.isPublic(method.getModifiers()) && told.equals(shown)
-                && Arrays.stream(method.getParameterTypes()).allMatch(type -> type == int.class));
+                && Arrays.stream(method.getParameterTypes()).allMatch(type -> type == int.class)
+                && (method.getReturnType() == boolean.class || method.getReturnType() == int.class)
+                && !Modifier.isStatic(method.getModifiers()));
+            check.due(method + " declares", method.getName().equals("trader") ? 2 : 0,
+                method.getExceptionTypes().length);
             due.remove(method.getName());
         }
         check.due("methods that are missing: " + due.keySet(), 0, due.size());
         for (Field field : ExemptDesk.class.getDeclaredFields()) {
             check.due(field + " is private", true, isHidden(field) || field.getName().equals("NONE"));
         }
+        check.due("NONE", -1, ExemptDesk.NONE);
+        for (Class<?> inside : ExemptDesk.class.getDeclaredClasses()) {
+            check.due(inside + " is seen from outside", 0, inside.getModifiers() & (Modifier.PUBLIC | Modifier.PROTECTED));
+            check.due(inside + " is static", true, Modifier.isStatic(inside.getModifiers()));
+        }
         for (Constructor<?> constructor : ExemptDesk.class.getDeclaredConstructors()) {
             check.due("constructor takes nothing", 0, constructor.getParameterCount());
+            check.due("constructor is public", true, Modifier.isPublic(constructor.getModifiers()));
         }
         check.due("final", true, Modifier.isFinal(ExemptDesk.class.getModifiers()));
         check.end();
+    }
+
+    private static boolean isPublicName(String name) {
+        return Arrays.stream(FACE.split(",")).anyMatch(one -> one.split(" ")[0].equals(name));
     }
 
     private static boolean isHidden(Member member) {
